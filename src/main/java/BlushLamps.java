@@ -34,17 +34,19 @@ public final class BlushLamps {
     private int faultPlace;
 
     public BlushLamps() {
-        town = new Town();
-        spare = new Town();
+        Town first = new Town();
+        Town second = new Town();
         tape = new Tape();
-        reader = new Reader(spare);
+        reader = new Reader(second);
         laws = new Laws();
-        course = new Course(laws, town);
+        course = new Course(first);
         ways = new Ways();
         posts = new Posts();
         known = new Known();
         past = new Past();
-        now = new Night(town);
+        now = new Night(first);
+        town = first;
+        spare = second;
         faultPlace = NONE;
     }
 
@@ -508,15 +510,14 @@ public final class BlushLamps {
         static final int YOUNG = 130;
         static final int WORD = 131;
         static final int LIGHTER = 132;
+        /** The first of the four LAWS. */
         static final int GLOWS = 133;
-        static final int WEARS = 134;
-        static final int COOLS = 135;
-        static final int LEAVES = 136;
         static final int DRAUGHT = 137;
         static final int SEED = 138;
         static final int IF = 139;
         static final int THEN = 140;
         static final int ELSE = 141;
+        /** The first and the last VAR. */
         static final int HEAT = 142;
         static final int TOLD = 150;
 
@@ -665,6 +666,48 @@ public final class BlushLamps {
 
         /** The number of the FAULT, 0 without; faultPlace is where it is. */
         int readInto(Tape tape, Town fresh) {
+            start(tape, fresh);
+            for (int i = 0; i < Tokens.ROOM && fault == 0 && kind() != Tokens.END; i++) {
+                int kind = kind();
+                switch (kind) {
+                    case Tokens.CORNER:
+                        readCorner();
+                        break;
+                    case Tokens.STREET:
+                        readStreet();
+                        break;
+                    case Tokens.YOUNG:
+                        readYoung();
+                        break;
+                    case Tokens.WORD:
+                        readWord();
+                        break;
+                    case Tokens.LIGHTER:
+                        pass();
+                        town.lighter = takeCorner();
+                        break;
+                    case Tokens.DRAUGHT:
+                        pass();
+                        town.draught = takeInt(0, 100);
+                        break;
+                    case Tokens.SEED:
+                        pass();
+                        town.seed = takeInt(0, 9999);
+                        break;
+                    default:
+                        // it fails for what is not one of them either
+                        readLaw(kind - Tokens.GLOWS);
+                }
+                expect(';');
+            }
+            if (fault == 0) {
+                fault = laterFault;
+                faultPlace = laterPlace;
+            }
+            return fault;
+        }
+
+        private void start(Tape tape, Town fresh) {
             tokens.cutUp(tape);
             fresh.clear();
             town = fresh;
@@ -674,53 +717,6 @@ public final class BlushLamps {
             faultPlace = NONE;
             laterFault = 0;
             laterPlace = NONE;
-            for (int i = 0; i < Tokens.ROOM && fault == 0 && kind() != Tokens.END; i++) {
-                readTell();
-            }
-            if (fault == 0) {
-                fault = laterFault;
-                faultPlace = laterPlace;
-            }
-            return fault;
-        }
-
-        private void readTell() {
-            int kind = kind();
-            switch (kind) {
-                case Tokens.CORNER:
-                    readCorner();
-                    break;
-                case Tokens.STREET:
-                    readStreet();
-                    break;
-                case Tokens.YOUNG:
-                    readYoung();
-                    break;
-                case Tokens.WORD:
-                    readWord();
-                    break;
-                case Tokens.LIGHTER:
-                    pass();
-                    town.lighter = takeCorner();
-                    break;
-                case Tokens.GLOWS:
-                case Tokens.WEARS:
-                case Tokens.COOLS:
-                case Tokens.LEAVES:
-                    readLaw(kind - Tokens.GLOWS);
-                    break;
-                case Tokens.DRAUGHT:
-                    pass();
-                    town.draught = takeInt(0, 100);
-                    break;
-                case Tokens.SEED:
-                    pass();
-                    town.seed = takeInt(0, 9999);
-                    break;
-                default:
-                    fail(SYNTAX);
-            }
-            expect(';');
         }
 
         private void readCorner() {
@@ -766,6 +762,10 @@ public final class BlushLamps {
         }
 
         private void readLaw(int law) {
+            if (law < 0 || law >= Town.LAWS) {
+                fail(SYNTAX);
+                return;
+            }
             pass();
             expect('=');
             town.lawStart[law] = town.codeSize;
@@ -1337,11 +1337,10 @@ public final class BlushLamps {
     private static final class Course {
         private static final int LONGEST_LIT = 100;
 
-        private final Laws laws;
+        private final Laws laws = new Laws();
         private final Night trial;
 
-        Course(Laws its, Town first) {
-            laws = its;
+        Course(Town first) {
             trial = new Night(first);
         }
 
@@ -1569,23 +1568,28 @@ public final class BlushLamps {
         /** The search is dear and asked again for each of the YOUNG: what it found holds till something changes. */
         boolean isStale = true;
         private final int[] light = new int[MOST_CORNERS];
+        private final int[] gain = new int[MOST_CORNERS];
         private final int[] where = new int[MOST_YOUNG];
-        private int ceiling;
+        private int last;
 
         void search(Night night) {
             if (!isStale) {
                 return;
             }
             isStale = false;
-            Arrays.fill(light, 0);
-            Arrays.fill(found, 0);
+            most = 0;
+            last = NONE;
             int all = 0;
             for (int y = 0; y < night.town.youngs; y++) {
                 all += night.glow[y];
+                last = night.glow[y] > 0 ? y : last;
             }
-            most = NONE;
-            ceiling = litWith(night.town, all);
-            stand(night, 0, all);
+            Arrays.fill(light, 0);
+            Arrays.fill(where, 0);
+            Arrays.fill(found, 0);
+            if (last != NONE) {
+                stand(night, 0, all);
+            }
         }
 
         /** The fewest YOUNG ones that light the STREET once they are moved there (bits), NONE if all are too few. */
@@ -1607,22 +1611,41 @@ public final class BlushLamps {
          * are not placed yet, and no STREET is lit in the end that all of it at either end would not light.
          */
         private void stand(Night night, int young, int rest) {
+            if (young >= last) {
+                standLast(night);
+                return;
+            }
             int hoped = litWith(night.town, rest);
-            if (most == ceiling || hoped <= most) {
-                return;
-            }
-            if (young >= night.town.youngs) {
-                most = hoped;
-                System.arraycopy(where, 0, found, 0, MOST_YOUNG);
-                return;
-            }
             int glow = night.glow[young];
-            int last = glow == 0 ? 0 : night.town.corners - 1;
-            for (int c = lowestFor(night, young); c <= last; c++) {
+            int highest = glow == 0 ? 0 : night.town.corners - 1;
+            for (int c = lowestFor(night, young); c <= highest && hoped > most; c++) {
                 where[young] = c;
                 light[c] += glow;
                 stand(night, young + 1, rest - glow);
                 light[c] -= glow;
+            }
+        }
+
+        /** One look at the STREETS tells of every CORNER how many more are lit by the last one there. */
+        private void standLast(Night night) {
+            Town town = night.town;
+            Arrays.fill(gain, 0);
+            int lit = 0;
+            for (int s = 0; s < town.streets; s++) {
+                int lacks = town.span[s] - light[town.one[s]] - light[town.other[s]];
+                if (lacks <= 0) {
+                    lit++;
+                } else if (lacks <= night.glow[last]) {
+                    gain[town.one[s]]++;
+                    gain[town.other[s]]++;
+                }
+            }
+            for (int c = 0; c < town.corners; c++) {
+                if (lit + gain[c] > most) {
+                    most = lit + gain[c];
+                    where[last] = c;
+                    System.arraycopy(where, 0, found, 0, MOST_YOUNG);
+                }
             }
         }
 

@@ -32,7 +32,9 @@ final class FuzzTest {
 
     private void go() {
         while (calls < MOST_CALLS && !check.isAnyWrong()) {
-            if (calls == 0 || random.nextInt(120) == 0) {
+            // an empty town has little to ask of
+            boolean isPoor = model.count(1) == 0 || model.count(2) == 0 || model.count(3) == 0;
+            if (calls == 0 || oneIn(isPoor ? 5 : 200)) {
                 readSome();
             } else if (random.nextInt(3) == 0) {
                 doSomething();
@@ -98,27 +100,27 @@ final class FuzzTest {
 
     private String text() {
         List<String> tells = new ArrayList<>();
-        int corners = oneIn(30) ? 8 : below(8);
+        int corners = oneIn(40) ? 8 : oneIn(5) ? below(8) : 2 + below(6);
         for (int c = 0; c < corners; c++) {
             tells.add("corner" + blank() + "c" + (char) ('a' + c));
         }
-        int streets = corners == 0 ? 0 : oneIn(30) ? 11 : below(11);
+        int streets = corners == 0 ? 0 : oneIn(40) ? 11 : oneIn(3) ? below(11) : 10;
         for (int s = 0; s < streets; s++) {
             int a = below(corners);
             int b = corners == 1 || oneIn(200) ? a : (a + 1 + below(corners - 1)) % corners;
-            int span = oneIn(100) ? 100 : oneIn(100) ? 0 : 1 + below(oneIn(2) ? 99 : 25);
+            int span = oneIn(300) ? 100 : oneIn(300) ? 0 : 1 + below(oneIn(2) ? 99 : 25);
             if (corners > 1) {
                 tells.add("street" + blank() + "c" + (char) ('a' + a) + blank() + "c" + (char) ('a' + b) + blank() + span);
             }
         }
-        int young = corners == 0 ? 0 : oneIn(30) ? 7 : below(oneIn(3) ? 7 : 5);
+        int young = corners == 0 ? 0 : oneIn(40) ? 7 : oneIn(4) ? below(7) : 2 + below(4);
         for (int y = 0; y < young; y++) {
             String corner = "c" + (char) ('a' + below(oneIn(100) ? 9 : corners));
-            int age = oneIn(100) ? 41 : 10 + below(31);
-            int temper = oneIn(100) ? 10 : below(10);
+            int age = oneIn(200) ? 41 : 10 + below(31);
+            int temper = oneIn(200) ? 10 : below(10);
             tells.add("young y" + (char) ('a' + y) + blank() + age + blank() + temper + blank() + corner);
         }
-        int words = oneIn(30) ? 6 : below(6);
+        int words = oneIn(40) ? 6 : oneIn(4) ? below(6) : 2 + below(4);
         for (int w = 0; w < words; w++) {
             tells.add("word w" + (char) ('a' + w) + blank() + (oneIn(100) ? 100 : below(100)));
         }
