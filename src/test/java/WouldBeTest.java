@@ -114,6 +114,8 @@ final class WouldBeTest {
         BlushLamps few = Check.town("corner a;corner b;corner c;corner d;street a b 2;street c d 1;young p 10 0 a;young q 10 0 a;"
             + "word v 1;word w 2;");
         few.say(0, 0);
+        due("best(NONE), by 1", few.best(NONE), 1);
+        due("best(0), by 1", few.best(0), 2);
         few.say(1, 1);
         due("best(NONE), a little", few.best(NONE), 2);
         due("best(0), a little", few.best(0), 2);
