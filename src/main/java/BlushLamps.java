@@ -1187,6 +1187,8 @@ public final class BlushLamps {
         private static final int WHICH = 7;
         private static final int TOLD = 8;
         private static final int VARIABLES = 9;
+        /** GLOWS, WEARS and COOLS tell no more than this. */
+        private static final int MOST_HELD = 99;
         /** Six ( within one another leave two numbers waiting each, and beside them one of a '<' and three of a sum. */
         private static final int STACK_ROOM = 24;
 
@@ -1231,7 +1233,7 @@ public final class BlushLamps {
 
         int mostLasting(Night night, int young) {
             int best = 0;
-            int most = Integer.MIN_VALUE;
+            int most = -MOST_HELD - 1;
             for (int w = 0; w < night.town.words; w++) {
                 int left = night.heat[w] - wears(night, young, w);
                 if (left > most) {
@@ -1255,7 +1257,7 @@ public final class BlushLamps {
         /** The two WORDS, as 10 * the lesser + the other. */
         int mostAlike(Night night) {
             int best = 1;
-            int least = Integer.MAX_VALUE;
+            int least = MOST_HELD * MOST_YOUNG + 1;
             for (int one = 0; one < night.town.words; one++) {
                 for (int other = one + 1; other < night.town.words; other++) {
                     int apart = apart(night, one, other);
@@ -1269,7 +1271,7 @@ public final class BlushLamps {
         }
 
         private static int held(int worth) {
-            return Math.max(0, Math.min(99, worth));
+            return Math.max(0, Math.min(MOST_HELD, worth));
         }
 
         private int lawOf(int law, Night night, int young, int word) {

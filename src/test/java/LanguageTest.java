@@ -3,8 +3,13 @@ import com.sun.source.tree.BinaryTree;
 import com.sun.source.tree.ClassTree;
 import com.sun.source.tree.CompilationUnitTree;
 import com.sun.source.tree.CompoundAssignmentTree;
+import com.sun.source.tree.ConditionalExpressionTree;
+import com.sun.source.tree.ExpressionTree;
+import com.sun.source.tree.ForLoopTree;
 import com.sun.source.tree.LambdaExpressionTree;
+import com.sun.source.tree.LiteralTree;
 import com.sun.source.tree.MemberReferenceTree;
+import com.sun.source.tree.MemberSelectTree;
 import com.sun.source.tree.MethodInvocationTree;
 import com.sun.source.tree.MethodTree;
 import com.sun.source.tree.NewClassTree;
@@ -13,6 +18,7 @@ import com.sun.source.tree.ThrowTree;
 import com.sun.source.tree.Tree;
 import com.sun.source.tree.TryTree;
 import com.sun.source.tree.VariableTree;
+import com.sun.source.tree.WhileLoopTree;
 import com.sun.source.util.JavacTask;
 import com.sun.source.util.TreePath;
 import com.sun.source.util.TreePathScanner;
@@ -31,6 +37,7 @@ import java.util.Set;
 import java.util.TreeSet;
 import javax.lang.model.element.Element;
 import javax.lang.model.element.ElementKind;
+import javax.lang.model.element.VariableElement;
 import javax.tools.JavaCompiler;
 import javax.tools.StandardJavaFileManager;
 import javax.tools.ToolProvider;
@@ -183,7 +190,63 @@ final class LanguageTest extends TreePathScanner<Void, Void> {
         if (isOfTexts) {
             no("texts joined or compared by a sign", tree);
         }
+        boolean divides = tree.getKind() == Tree.Kind.DIVIDE || tree.getKind() == Tree.Kind.REMAINDER;
+        if (divides && !isNeverZero(tree.getRightOperand()) && !isLookedAt(tree.getRightOperand())) {
+            no("a divisor that was not looked at", tree);
+        }
         return super.visitBinary(tree, none);
+    }
+
+    private boolean isNeverZero(ExpressionTree divisor) {
+        Object worth = null;
+        if (divisor instanceof LiteralTree literal) {
+            worth = literal.getValue();
+        } else if (element(divisor) instanceof VariableElement constant) {
+            worth = constant.getConstantValue();
+        }
+        return worth instanceof Integer n && n != 0;
+    }
+
+    /** Whether it stands in an a ? b : c whose a compares it. */
+    private boolean isLookedAt(ExpressionTree divisor) {
+        for (TreePath path = TreePath.getPath(unit, divisor); path != null; path = path.getParentPath()) {
+            if (path.getLeaf() instanceof ConditionalExpressionTree choice) {
+                String looks = choice.getCondition().toString();
+                return looks.equals("(" + divisor + " == 0)") || looks.equals(divisor + " == 0") || looks.equals(divisor + " <= 0");
+            }
+        }
+        return false;
+    }
+
+    /** A field of the library is no function of it, and stands on no list; an array's length belongs to the language. */
+    @Override
+    public Void visitMemberSelect(MemberSelectTree tree, Void none) {
+        Element it = element(tree);
+        if (it != null && it.getKind() == ElementKind.FIELD && it.getEnclosingElement().toString().startsWith("java.")) {
+            no("the library's field " + tree, tree);
+        }
+        return super.visitMemberSelect(tree, none);
+    }
+
+    @Override
+    public Void visitForLoop(ForLoopTree tree, Void none) {
+        if (tree.getCondition() == null || !comparesOrder(tree.getCondition())) {
+            no("a loop without a bound", tree);
+        }
+        return super.visitForLoop(tree, none);
+    }
+
+    @Override
+    public Void visitWhileLoop(WhileLoopTree tree, Void none) {
+        if (!comparesOrder(tree.getCondition())) {
+            no("a loop without a bound", tree);
+        }
+        return super.visitWhileLoop(tree, none);
+    }
+
+    private static boolean comparesOrder(ExpressionTree condition) {
+        String all = condition.toString();
+        return all.contains(" < ") || all.contains(" <= ") || all.contains(" >= ");
     }
 
     @Override
